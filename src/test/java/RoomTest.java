@@ -51,7 +51,7 @@ public final class RoomTest {
 
     private static long everyCall(CapWallets x) {
         long sum = 0;
-        for (int i = 0; i < 40; i++) {
+        for (int i = 0; i < 28; i++) {
             sum += x.tap(i % 4, i % 28, 30 * i, i % 10, i % 3 == 0);
             sum += x.claim(i / 2, 30 * i, 3) + x.whyNot(i, 500, 4) + x.settle(i % 4) + x.set(4, 10 * i);
             sum += x.tapOf(0, i % 8) + x.day(i % 4, i % 28, i % 4) + x.week(i % 4, i % 4, i % 7) + x.count(i % 10);
